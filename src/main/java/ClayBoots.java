@@ -57,7 +57,7 @@ public final class ClayBoots {
     private static final int BEYOND = 2;
     private static final int TOO_MANY = 3;
 
-    // A token is one number: a NUMBER is itself, a word WORD and its place in WORDS, a sign SIGN and its byte.
+    // A token is one number: a NUMBER is itself, a word WORD and its place in WORDS, any other byte SIGN and itself.
     private static final int WORD = 10000;
     private static final int SIGN = 20000;
     private static final int NO_TOKEN = 30000;
@@ -1376,7 +1376,7 @@ public final class ClayBoots {
                         end = endOfDigits(i);
                         addToken(end - i <= DIGITS ? numberFrom(i, end) : NO_TOKEN, i);
                     } else if (tape[i] != ' ' && tape[i] != '\n') {
-                        addToken(isSign(tape[i]) ? SIGN + tape[i] : NO_TOKEN, i);
+                        addToken(SIGN + tape[i], i);
                     }
                 }
             }
@@ -1399,10 +1399,6 @@ public final class ClayBoots {
 
         private static boolean isDigit(int c) {
             return c >= '0' && c <= '9';
-        }
-
-        private static boolean isSign(int c) {
-            return c == ';' || c >= '(' && c <= '+' || c == '-' || c == '/' || c >= '<' && c <= '>';
         }
 
         private int endOfLetters(int from) {
@@ -1607,7 +1603,6 @@ public final class ClayBoots {
 
         /** Behind a comparison: whether another one must follow. */
         private boolean closeAndJoin() {
-            settle(NOT);
             for (int i = 0; i < OPEN_AT_ONCE && is(CLOSES); i++) {
                 settle(OR);
                 if (waits == 0) {
@@ -1616,7 +1611,6 @@ public final class ClayBoots {
                 waits--;
                 opened--;
                 step();
-                settle(NOT);
             }
             if (is(AND) || is(OR)) {
                 settle(now);

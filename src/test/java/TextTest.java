@@ -26,6 +26,8 @@ public final class TextTest {
         fault(0, "takes 1 ;;", 1, 9);
         fault(0, "Takes 1;", 1, 0);
         fault(0, "takesX 1;", 1, 0);
+        fault(0, "takesA 1;", 1, 0);
+        fault(0, "takesZ 1;", 1, 0);
         fault(0, "takes 1\t;", 1, 7);
         fault(0, "takes (1);", 1, 6);
         fault(0, "takes -1;", 1, 6);
@@ -54,6 +56,8 @@ public final class TextTest {
         fault(1, "on 0 person 0 by 0 0 0 0 0 0 3 to 0;", 2, 29);
         fault(1, "on 0 person 0 by 0 0 0 0 0 0 2 to 0;", 3, 29);
         fault(1, "on 0 person 0 by 0 to 0", 1, 23);
+        fault(1, "on 0 person 0 by 0 to 3;", 2, 22);
+        fault(1, "on 0 person 2 by 0 to 3;", 2, 12);
         fault(1, "on 0 person 0 to 0;", 1, 14);
         fault(2, "on 1 wet;", 1, 8);
         fault(2, "on 1 rain;", 1, 5);
@@ -69,10 +73,23 @@ public final class TextTest {
         fault(3, "door 0 door 1 100;", 2, 14);
         fault(3, "door 0 door 1;", 1, 13);
         fault(3, "door 0 1 5;", 1, 7);
+        fault(0, ";".repeat(400), 1, 0);
+        fault(0, "takes 1;" + "x".repeat(392), 1, 8);
+        cut("takes 1;takes 2;", 12, 8);
+        cut("takes 12345", 10, 10);
         tooManyLines(0, "leaves 1;");
         tooManyLines(1, "on 0person 0by 0to 0;");
         tooManyLines(2, "on 5frost;");
         tooManyLines(3, "door 0door 1 5;");
+    }
+
+    /** What once stood behind the end of the tape is not read. */
+    private static void cut(String text, int length, int place) {
+        ClayBoots x = PromisesTest.shire();
+        Due.put(x, text);
+        x.end(length);
+        Due.is("11 cut " + text, x.text(0), NONE);
+        Due.is("11 cut " + text, x.fault(1), place);
     }
 
     private static void tooManyLines(int k, String line) {
@@ -95,6 +112,8 @@ public final class TextTest {
         Due.is("17 not ahead of and", said("leaves 1 when not 1=2 and 1=2;leaves 2;"), 2);
         Due.is("17 brackets", said("leaves 1 when (1=1 or 1=1) and 1=2;leaves 2;"), 2);
         Due.is("17 * and / as they come", said("leaves 7/2*2+7*3/4-1-1;"), 6 + 5 - 2);
+        Due.is("17 the last of many", said("leaves 9 when 1=2;".repeat(15) + "leaves 100+2*3 when 5<6;"), 106);
+        Due.is("17 as long as can be", said("leaves  1" + "+1".repeat(195) + ";"), 196);
         // 9999 three times folded wraps to -1027349969; a seventh of it, towards 0, is -146764281.
         Due.is("17 wraps, / goes towards 0", said("leaves 9999*9999*9999/7+9999*9999+9999*4678+8977;"), 19);
     }

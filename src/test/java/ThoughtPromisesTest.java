@@ -157,7 +157,7 @@ public final class ThoughtPromisesTest {
         Due.is("24 nothing of no field", x.mix(0), 1);
         Due.is("24 kind 6", x.mix(6), NONE);
         Due.is("24 kind -2", x.mix(-2), NONE);
-        x.clay(3, 0);
+        Due.is("23 0", x.clay(3, 0), true);
         x.set(1, 2, 29);
         Due.is("24 land is too little", x.mix(NONE), 0);
         ClayBoots y = new ClayBoots();
@@ -353,6 +353,12 @@ public final class ThoughtPromisesTest {
         Due.is("36 a 4", x.span(4, 0), NONE);
         Due.is("36 b -1", x.span(0, -1), NONE);
         Due.is("36 b 4", x.span(0, 4), NONE);
+        for (int d = 4; d < 8; d++) {
+            x.door(false);
+        }
+        Due.tell(x, 3, "door 7 door 0 5;");
+        Due.is("36 the eighth door", x.span(0, 7), 5);
+        Due.is("16 the eighth door", x.doorOf(0, 27), 5);
     }
 
     private static void laterAndFirst() {
@@ -375,29 +381,35 @@ public final class ThoughtPromisesTest {
         x.state(0);
         Due.is("38 563 is below 564", x.first(1000, 564), 1);
         Due.is("38 and not below 563", x.first(1000, 563), 3);
+        Due.is("38 v 1", x.first(4, 1), 7);
         Due.is("38 v m", x.first(2, 2), 1);
         Due.is("38 m 1", x.first(1, 1), NONE);
         Due.is("38 m 1001", x.first(1001, 5), NONE);
         Due.is("38 v 0", x.first(10, 0), NONE);
         Due.is("38 v above m", x.first(10, 11), NONE);
         Due.is("38 not drawn", x.look(9), 0);
-        int never = 0;
-        for (int s = 0; s < 64 && never == 0; s++) {
-            x.state(s * 1234567);
-            never = x.first(1000, 1) == NONE ? firstByHand(s * 1234567) : 0;
-        }
-        Due.is("38 not by 999", never > 999, true);
+        firstAtTheEnd(x);
     }
 
-    private static int firstByHand(int state) {
-        int then = state;
-        for (int n = 1; n < 100000; n++) {
+    /** Somewhere there are a thousand draws of 1000 without a 0: from there it is looked for. */
+    private static void firstAtTheEnd(ClayBoots x) {
+        int[] states = new int[1001];
+        int then = 0;
+        int without = 0;
+        for (int n = 0; n < 1000000; n++) {
+            states[n % 1001] = then;
             then = 1664525 * then + 1013904223;
-            if ((then >>> 8) % 1000 < 1) {
-                return n;
+            boolean zero = (then >>> 8) % 1000 == 0;
+            if (zero && without >= 1000) {
+                x.state(states[(n + 1001 - 998) % 1001]);
+                Due.is("38 behind 999", x.first(1000, 1), 999);
+                x.state(states[(n + 1001 - 999) % 1001]);
+                Due.is("38 not by 999", x.first(1000, 1), NONE);
+                return;
             }
+            without = zero ? 0 : without + 1;
         }
-        return 0;
+        Due.is("38 such a row of draws is found", false, true);
     }
 
     private static void wornRow() {
@@ -560,7 +572,13 @@ public final class ThoughtPromisesTest {
             x.door(true);
             x.person(3, 1, 1);
             x.set(2, 0, 0);
+            x.wear(NONE, 0);
+            x.caller(NONE, 0);
+            x.worth(NONE);
+            x.offer(NONE, 0);
+            x.worn(NONE);
             tellThoughts(x, 7);
+            tellThoughts(x, 6);
             Due.put(x, "on 7 frost;");
             Due.tell(x, 0, "takes");
             Due.put(x, "on 7 frost;on 8 thaw;");
@@ -575,7 +593,7 @@ public final class ThoughtPromisesTest {
             Due.is("43 law", x.of(0, 20) * 10 + x.of(0, 2), 45);
             Due.is("43 way", x.doorOf(0, 21), 5);
             Due.is("43 goes on", x.goes(1, 0), 8);
-            Due.is("43 thoughts", thoughtsOf(x), "1 0 1 3 3 3 1 1");
+            Due.is("43 thoughts", thoughtsOf(x), "1 0 6 1 3 3 3 2 1 2 4");
             Due.is("43 the tape stays", x.text(2), 2);
             Due.is("43 and is told", x.look(12), 2);
         }
@@ -597,14 +615,17 @@ public final class ThoughtPromisesTest {
         x.caller(v, v);
         x.worth(v);
         x.offer(v % 4, v);
+        x.offer(1, v - 1);
         x.worn(v);
     }
 
     private static String thoughtsOf(ClayBoots x) {
+        int[] all = {x.back(0), x.whose(7, 7), x.wear(0, 0) == 2 ? x.couples(6) * 6 + x.couples(5) : 0, x.wear(NONE, 0) + 1,
+            x.fair(0, 0), x.line(1, 1) - 3, x.widow(0), x.widow(1), x.row(0), x.worn(2) == 2 ? x.row(1) : 0, x.mix(2)};
         StringBuilder b = new StringBuilder();
-        b.append(x.back(0)).append(' ').append(x.whose(7, 7)).append(' ').append(x.wear(0, 0) - 1);
-        b.append(' ').append(x.fair(0, 0)).append(' ').append(x.line(1, 1) - 3).append(' ').append(x.widow(0));
-        b.append(' ').append(x.row(0)).append(' ').append(x.mix(2) == 4 ? 1 : 0);
+        for (int one : all) {
+            b.append(b.length() == 0 ? "" : " ").append(one);
+        }
         return b.toString();
     }
 
