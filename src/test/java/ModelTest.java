@@ -11,7 +11,7 @@ public final class ModelTest {
     }
 
     public static void main(String[] args) {
-        for (int seed = 0; seed < 600; seed++) {
+        for (int seed = 0; seed < 3000; seed++) {
             random = new Random(seed);
             x = new ClayBoots();
             m = new Model();
@@ -24,7 +24,7 @@ public final class ModelTest {
                     change();
                 }
             }
-            lookAtAll();
+            lookAround();
         }
         Due.end();
     }
@@ -165,18 +165,29 @@ public final class ModelTest {
         }
     }
 
-    private static void lookAtAll() {
-        for (int what = -1; what < 31; what++) {
-            Due.is(run + "look " + what, x.look(what), m.look(what));
-            for (int p = 0; p < 12; p++) {
-                Due.is(run + "of " + p + " " + what, x.of(p, what), m.of(p, what));
-                Due.is(run + "fieldOf " + p + " " + what, x.fieldOf(p, what), m.fieldOf(p, what));
-                Due.is(run + "doorOf " + p + " " + what, x.doorOf(p, what), m.doorOf(p, what));
-            }
-        }
-        for (int i = 0; i < 151; i++) {
-            for (int what = 0; what < 4; what++) {
-                Due.is(run + "book " + i, x.book(i, what), m.book(i, what));
+    /** Some of all that can be looked at, by chance: an object is good for 512 calls. */
+    private static void lookAround() {
+        for (int i = 0; i < 120; i++) {
+            int what = below(32) - 1;
+            int who = below(12);
+            int line = below(151);
+            switch (below(5)) {
+                case 0:
+                    Due.is(run + "look " + what, x.look(what), m.look(what));
+                    break;
+                case 1:
+                    Due.is(run + "of " + who + " " + what, x.of(who, what), m.of(who, what));
+                    break;
+                case 2:
+                    Due.is(run + "fieldOf " + who + " " + what % 3, x.fieldOf(who, what % 3), m.fieldOf(who, what % 3));
+                    break;
+                case 3:
+                    Due.is(run + "doorOf " + who + " " + what, x.doorOf(who, what), m.doorOf(who, what));
+                    break;
+                default:
+                    line = below(2) == 0 ? line : below(Math.max(1, m.look(8)));
+                    Due.is(run + "book " + line, x.book(line, what & 3), m.book(line, what & 3));
+                    break;
             }
         }
     }

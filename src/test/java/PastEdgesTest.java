@@ -325,38 +325,67 @@ public final class PastEdgesTest {
         return x.worn(7);
     }
 
-    private static ClayBoots taken() {
-        ClayBoots x = Shires.rich();
-        x.image(true);
-        x.image(false);
+    /** As it was when the image is taken, with nothing to undo. */
+    private static ClayBoots as(Supplier<ClayBoots> made) {
+        ClayBoots x = made.get();
+        x.state(x.look(9));
+        return x;
+    }
+
+    private static void back(String what, Supplier<ClayBoots> made, ToLongFunction<ClayBoots> changed) {
+        Alike.butForTheImage("43 " + what, () -> {
+            ClayBoots x = made.get();
+            Due.is("43 taken", x.image(true), true);
+            changed.applyAsLong(x);
+            Due.is("43 gone back", x.image(false), true);
+            return x;
+        }, () -> as(made));
+    }
+
+    /** All texts told anew; the tape is empty, and fault() tells nothing, as it was. */
+    private static long changeTexts(ClayBoots x) {
+        Due.tell(x, 0, "takes 2;leaves 999;strays 7;");
+        Due.tell(x, 1, "on 2 person 1 by 3 to 1;");
+        Due.tell(x, 2, "on 2 wet 9;on 3 frost;on 4 thaw;");
+        Due.tell(x, 3, "door 0 door 2 3;");
+        return x.text(NONE);
+    }
+
+    private static ClayBoots withoutTape(Supplier<ClayBoots> made) {
+        ClayBoots x = made.get();
+        x.end(0);
+        x.text(NONE);
         return x;
     }
 
     /** Terms 4: "THE IMAGE: all that is and was told but the TAPE, fault() and what can be undone (nothing then), as it was when it was taken;" */
     private static void imageGoesBack() {
-        Alike.unchanged("43 gone back", PastEdgesTest::taken, x -> change(x) + one(x.image(false)));
-        // With all texts told anew, and the tape and fault() put as they were.
-        Supplier<ClayBoots> empty = () -> {
-            ClayBoots x = taken();
-            x.end(0);
-            x.text(NONE);
-            return x;
-        };
-        Alike.unchanged("43 gone back from other texts", empty, x -> {
-            Due.tell(x, 0, "takes 2;leaves 999;strays 7;");
-            Due.tell(x, 1, "on 2 person 1 by 3 to 1;");
-            Due.tell(x, 2, "on 2 wet 9;on 3 frost;on 4 thaw;");
-            Due.tell(x, 3, "door 0 door 2 3;");
-            return x.text(NONE) + change(x) + one(x.image(false));
-        });
-        Alike.unchanged("43 gone back from no texts", empty, x -> x.text(0) + x.text(1) + x.text(2) + x.text(3) + one(x.image(false)));
+        back("from nothing else", Shires::rich, x -> 0);
+        back("from what was told and done", Shires::rich, PastEdgesTest::change);
+        Supplier<ClayBoots> empty = () -> withoutTape(Shires::rich);
+        back("from other texts", empty, PastEdgesTest::changeTexts);
+        back("from other texts and all else", empty, x -> changeTexts(x) + change(x));
+        back("from no texts", empty, x -> x.text(0) + x.text(1) + x.text(2) + x.text(3));
+        // The book: behind two that are undone other lines come in the places of those of the image.
+        back("from what was undone", Shires::rich, x -> one(x.undo()) + one(x.undo()) + x.call(1, 13, 0) + one(x.act(0, 1)) + x.days(1));
+        back("from what was undone, all of it", Shires::rich, x -> one(x.undo()) + one(x.undo()) + one(x.undo()) + one(x.undo()) + change(x));
     }
 
     /** Terms 4: "gone back to it may be more than once." */
     private static void imageMoreThanOnce() {
-        Alike.unchanged("43 twice", PastEdgesTest::taken, x -> change(x) + one(x.image(false)) + change(x) + one(x.image(false)));
-        Alike.unchanged("43 at once again", PastEdgesTest::taken, x -> one(x.image(false)) + one(x.image(false)) + one(x.image(false)));
-        Alike.unchanged("43 undone from it", PastEdgesTest::taken, x -> x.days(2) + one(x.undo()) + change(x) + one(x.image(false)));
+        back("twice", Shires::rich, x -> change(x) + one(x.image(false)) + change(x));
+        back("at once again", Shires::rich, x -> one(x.image(false)) + one(x.image(false)));
+        back("from what was undone from it", Shires::rich, x -> one(x.image(false)) + x.days(2) + one(x.undo()) + change(x));
+        Supplier<ClayBoots> taken = () -> {
+            ClayBoots x = Shires.rich();
+            x.image(true);
+            return x;
+        };
+        Alike.unchanged("43 it is there still", () -> {
+            ClayBoots x = taken.get();
+            x.image(false);
+            return x;
+        }, x -> change(x) + one(x.image(false)));
     }
 
     /** Terms 4: "but the TAPE, fault()" */
@@ -415,12 +444,7 @@ public final class PastEdgesTest {
 
     /** Terms 4: "THE IMAGE: all that is and was told" Of an empty shire. */
     private static void imageOfNothing() {
-        Supplier<ClayBoots> empty = () -> {
-            ClayBoots x = new ClayBoots();
-            x.image(true);
-            return x;
-        };
-        Alike.unchanged("43 back to nothing", empty, x -> {
+        back("to nothing", ClayBoots::new, x -> {
             x.field(1, 1);
             x.door(true);
             x.door(false);
@@ -429,9 +453,10 @@ public final class PastEdgesTest {
             Due.tell(x, 1, "on 0 person 0 by 0 to 0;");
             Due.tell(x, 2, "on 0 wet 9;");
             Due.tell(x, 3, "door 0 door 1 3;");
-            return change(x) + one(x.image(false));
+            return change(x);
         });
-        ClayBoots x = empty.get();
+        ClayBoots x = new ClayBoots();
+        x.image(true);
         x.door(true);
         x.image(false);
         x.door(false);
@@ -450,13 +475,8 @@ public final class PastEdgesTest {
 
     /** Terms 4: "THE IMAGE: all that is and was told" Of a shire in which there is no room for more. */
     private static void imageOfAFullShire() {
-        Supplier<ClayBoots> full = () -> {
-            ClayBoots x = Shires.full();
-            x.image(true);
-            x.image(false);
-            return x;
-        };
-        Alike.unchanged("43 back to a full shire", full, x -> change(x) + one(x.image(false)));
+        back("to a full shire", Shires::full, PastEdgesTest::change);
+        back("to a full shire from other texts", () -> withoutTape(Shires::full), x -> changeTexts(x) + change(x));
     }
 
     /** Promise 44: "What 0 FIELDS, 1 DOORS, 2 PEOPLE, 3 WET, 4 FROST, 5 MOVED, 6 DAY, 7 STONE (a set), 8 lines of THE BOOK, 9 STATE, 10 lines of THE LAW, 11 of CALLS, 12 of SKY, 13 of WAYS, 14 what can be undone. NONE for another what. (STATE as it is.)" */

@@ -551,6 +551,9 @@ public final class PromiseEdgesTest {
         Due.is("16 the longest", x.doorOf(0, 27), 99);
         Due.is("16 the other way", x.doorOf(7, 20), 99);
         Due.is("16 the shortest that can be", x.doorOf(1, 27), 1);
+        Due.tell(x, 3, "door 7 door 0 98;door 1 door 7 2;door 3 door 2 5;door 2 door 3 4;door 3 door 2 6;");
+        Due.is("16 told from the last to the first", x.doorOf(0, 27) * 100 + x.doorOf(7, 20), 9898);
+        Due.is("16 told from the other one", x.doorOf(1, 27) * 100 + x.doorOf(7, 21), 202);
         Due.is("16 of several the shortest", x.doorOf(2, 23), 4);
         Due.is("16 of several the shortest, the other way", x.doorOf(3, 22), 4);
         Due.is("16 over another is none", x.doorOf(0, 21), NONE);

@@ -34,6 +34,7 @@ public final class TextEdgesTest {
         latestFault();
         textsAreEmptyAtFirst();
         whatCantStandThere();
+        everyTokenEverywhere();
         wrongTokens();
         whereItEnds();
         severalOfEach();
@@ -72,7 +73,10 @@ public final class TextEdgesTest {
         ClayBoots x = shire();
         int lines = Due.tell(x, k, text);
         Due.is("12 NONE by a fault alone: " + text, lines == NONE, x.fault(0) != 0);
-        return x.fault(0) == 0 ? x.fault(1) + 1 : 1000 * x.fault(0) + x.fault(1);
+        int found = x.fault(0) == 0 ? x.fault(1) + 1 : 1000 * x.fault(0) + x.fault(1);
+        Due.is("12 a sound law behind: " + text, Due.tell(x, 0, "takes 7 when not((((((( 1=1 )))))));takes 9;"), 2);
+        Due.is("12 it tells behind: " + text, x.of(0, 20), 9);
+        return found;
     }
 
     private static void sound(int k, String text) {
@@ -158,6 +162,13 @@ public final class TextEdgesTest {
         Due.put(x, "takes");
         x.end(0);
         Due.is("11 cut to nothing it is the empty text", x.text(0), 0);
+        // Had a byte more been read, these would be faulty where the word and the number begin.
+        Due.put(x, "takesx");
+        x.end(5);
+        Due.is("11 a word is cut", x.text(0) + x.fault(1), NONE + 5);
+        Due.put(x, "takes 12345");
+        x.end(10);
+        Due.is("11 a number is cut", x.text(0) + x.fault(1), NONE + 10);
     }
 
     /** Promise 12: "The TAPE, empty then, is TEXT k: how many lines." */
@@ -187,6 +198,13 @@ public final class TextEdgesTest {
             }
         }
         ClayBoots x = shire();
+        for (int again = 0; again < 4; again++) {
+            Due.tell(x, 0, "takes 1" + "+1".repeat(50 + again) + ";");
+            Due.is("12 a long one again", x.of(0, 20), 51 + again);
+        }
+        Due.tell(x, 0, "takes 1 when 1=2;takes 50;takes 51;");
+        Due.tell(x, 0, "takes 2 when 1=2;");
+        Due.is("12 a line of the law ahead is no more", x.of(0, 20), 3);
         Due.tell(x, 1, SHORT[1].repeat(16));
         Due.tell(x, 1, SHORT[1]);
         Due.is("12 one call alone", x.days(1), 1);
@@ -318,6 +336,42 @@ public final class TextEdgesTest {
                     fault(kinds[i], ahead + none, 1, ahead.length());
                     fault(kinds[i], ahead + none + " 1/0", 1, ahead.length());
                 }
+            }
+        }
+    }
+
+    private static final String[] WORDS = {"takes", "leaves", "strays", "when", "or", "and", "not", "size", "heel", "clay", "land", "load",
+        "wet", "frost", "stone", "called", "day", "on", "person", "by", "to", "thaw", "door"};
+    private static final String[] SIGNS = {";", "+", "-", "*", "/", "(", ")", "<", "=", ">"};
+    private static final String LINE = " takes leaves strays ";
+    private static final String UNIT = " 1 size heel clay land load wet frost stone called day ";
+    private static final String CONDITION = UNIT + "not ( ";
+    private static final String SUM = " * / + - ";
+    private static final String JOIN = " or and ";
+
+    /** Terms 2: "1 what can't stand there" Every token at every place of a line. */
+    private static void everyTokenEverywhere() {
+        everyToken(0, LAW, LINE, UNIT, SUM + "when ; ", UNIT, SUM + "when ; ", " 1 ", SUM + "when ; ", UNIT, SUM + "when ; ", UNIT,
+            SUM + "when ; ", CONDITION, SUM + "< = > ", UNIT, SUM + JOIN + "; ", CONDITION, SUM + "< = > ", UNIT, SUM + JOIN + "; ",
+            CONDITION, CONDITION, CONDITION, SUM + "< = > ", UNIT, SUM + JOIN + ") ", JOIN + "; ", LINE);
+        everyToken(1, CALLS, " on ", " 1 ", " person ", " 1 ", " by ", " 1 ", " 1 to ", " 1 to ", " 1 to ", " 1 to ", " 1 to ", " 1 to ",
+            " 1 ", " ; ", " on ");
+        everyToken(2, WET, " on ", " 1 ", " wet frost thaw ", " 1 ", " ; ", " on ");
+        everyToken(2, FROST, " on ", " 1 ", " wet frost thaw ", " ; ", " on ");
+        everyToken(2, THAW, " on ", " 1 ", " wet frost thaw ", " ; ", " on ");
+        everyToken(3, WAYS, " door ", " 1 ", " door ", " 1 ", " 1 ", " ; ", " door ");
+    }
+
+    private static void everyToken(int k, String[] line, String... allowed) {
+        Due.is("T2 a set for each place", allowed.length, line.length + 1);
+        List<String> tokens = new ArrayList<>(List.of(WORDS));
+        tokens.addAll(List.of(SIGNS));
+        tokens.add("1");
+        for (int at = 0; at < allowed.length; at++) {
+            String ahead = joined(line, at);
+            for (String token : tokens) {
+                boolean blamed = faultOf(k, ahead + token) == 1000 + ahead.length();
+                Due.is("T2 can stand there: " + ahead + token, !blamed, allowed[at].contains(" " + token + " "));
             }
         }
     }
@@ -538,6 +592,9 @@ public final class TextEdgesTest {
         Due.tell(x, 0, "leaves 9999/9999;strays 9998/9999;");
         Due.is("T2 all of it", x.tells(0, 0, 0, 0), 1);
         Due.is("T2 not all of it", x.tells(0, 0, 0, 1), 0);
+        Due.tell(x, 0, "leaves 7/1;strays 7/0001/1*3;");
+        Due.is("T2 by 1", x.tells(0, 0, 0, 0), 7);
+        Due.is("T2 by 1 and 1", x.tells(0, 0, 0, 1), 21);
     }
 
     /** Terms 2: "FAULTS, the first by its place" */
@@ -740,6 +797,7 @@ public final class TextEdgesTest {
         Due.is("T2 the first that has none", leaves("leaves 1 when 1=2;leaves 2;leaves 3 when 3=3;"), 2);
         Due.is("T2 of that word", leaves("takes 1;strays 2;leaves 3;"), 3);
         Due.is("T2 the sixteenth", leaves("leaves 1 when 1=2;".repeat(15) + "leaves 16;"), 16);
+        Due.is("T2 the sixteenth, of several parts", leaves("leaves 1 when 1=2;".repeat(15) + "leaves 100+2*3 when 1=1 and 1+2*3=7;"), 106);
         Due.is("T2 none of sixteen", leaves("leaves 1 when 1=2;".repeat(16)), 500);
     }
 
@@ -795,6 +853,7 @@ public final class TextEdgesTest {
         int[] due = {3, 5, 2, 44, 6, 8, 1, 0, 2, 7};
         for (int i = 0; i < FACTS.length; i++) {
             Due.is("T2 takes " + FACTS[i], told("takes " + FACTS[i] + ";").of(0, 20), due[i]);
+            Due.is("T2 takes 60 less " + FACTS[i], told("takes 60-" + FACTS[i] + ";").of(0, 20), 60 - due[i]);
         }
     }
 
@@ -816,6 +875,7 @@ public final class TextEdgesTest {
         int[] due = {3, 5, 0, 0, 6, 8, 1, 1, 2, 7};
         for (int i = 0; i < FACTS.length; i++) {
             Due.is("T2 strays " + FACTS[i], told("strays " + FACTS[i] + ";").tells(0, 0, 1, 1), due[i]);
+            Due.is("T2 strays 60 less " + FACTS[i], told("strays 60-" + FACTS[i] + ";").tells(0, 0, 1, 1), 60 - due[i]);
         }
         Due.is("T2 strays without stone", told("strays 9-stone;").tells(0, 0, 0, 1), 9);
         // To a door without stone he strays, though the next one is of stone; to that one he does not.
@@ -857,6 +917,11 @@ public final class TextEdgesTest {
                 Due.is("T2 =", so(a + "=" + b), a == b);
                 Due.is("T2 >", so(a + ">" + b), a > b);
                 Due.is("T2 not", so("not " + a + "=" + b), a != b);
+                Due.is("T2 not <", so("not " + a + "<" + b), a >= b);
+                Due.is("T2 not >", so("not " + a + ">" + b), a <= b);
+                Due.is("T2 < and >", so(a + "<" + b + " and 2>" + a), a < b && 2 > a);
+                Due.is("T2 > and =", so(a + ">" + b + " and 1=1"), a > b);
+                Due.is("T2 > or <", so(a + ">" + b + " or " + a + "<" + b), a != b);
                 Due.is("T2 not not", so("not not " + a + "=" + b), a == b);
                 Due.is("T2 below 0", so("0-" + a + "<0-" + b), -a < -b);
             }

@@ -114,9 +114,22 @@ public final class ThoughtEdgesTest {
         Due.is("19 on boots of all", x.goes(1, 1), 11 - 5 + 6 - 3);
         Due.is("19 held", x.goes(1, 2), 2);
         Due.is("19 held as now", x.fieldOf(8, 2), NONE);
+        Due.tell(x, 1, "on 0 person 0 by 0 to 0;");
+        Due.is("19 the first one's boots, too", x.goes(1, 1), 3 + 3);
         Due.tell(x, 1, "on 0 person 0 by 0 1 2 3 4 5 to 0;on 0 person 1 by 6 7 8 to 0;");
         Due.tell(x, 0, "takes 1;leaves 1000;");
         Due.is("19 all ten are held", x.goes(1, 2), 10);
+        // What falls at a home of stone is held by nobody; at another home it is.
+        for (boolean stone : new boolean[] {false, true}) {
+            ClayBoots y = new ClayBoots();
+            y.field(0, 50);
+            y.door(!stone);
+            y.door(stone);
+            y.person(1, 9, 0);
+            Due.tell(y, 0, "takes 8;leaves 0;");
+            Due.tell(y, 1, "on 0 person 0 by 0 to 0;");
+            Due.is("19 held by what falls at home", y.goes(1, 2), stone ? 0 : 1);
+        }
     }
 
     /** Terms 4: "no DRAWS: he strays, if strays is 500 at least" */
@@ -249,6 +262,10 @@ public final class ThoughtEdgesTest {
             Due.is("22 of five the " + i + "-th field", x.order(8, 0, 62, 10 + i), due[i]);
         }
         Due.is("22 no sixth", x.order(8, 0, 62, 15), NONE);
+        Due.tell(x, 0, "takes 50 when land=100;takes 1;leaves 1000;");
+        Due.is("22 of these alone, one", x.order(8, 0, 2, 0), 1);
+        Due.is("22 of these alone, five", x.order(8, 0, 62, 0), 5);
+        Due.is("22 of all of these", x.order(8, 0, 63 - 2, 0), 54);
         Due.is("22 the last person to the last door by the last field", x.order(11, 7, 512, 10), 9);
     }
 
@@ -464,6 +481,8 @@ public final class ThoughtEdgesTest {
         Due.is("28 none is told", x.whose(0, 0), NONE);
         x.wear(0, 0);
         Due.is("28 as far as can be", x.whose(99, 99), 0);
+        Due.is("28 as near as can be", x.whose(0, 0), 0);
+        Due.is("28 at both bounds", x.whose(0, 99) + x.whose(99, 0), 0);
         x.wear(4, 6);
         Due.is("28 five apart each: the first told", x.whose(2, 3), 0);
         Due.is("28 nearer by one on the right", x.whose(2, 4), 1);
@@ -860,6 +879,7 @@ public final class ThoughtEdgesTest {
         Due.is("40 less by one", rowOf(6, 5), 1002);
         Due.is("40 by places", rowOf(1, 1, 2, 2), 2004);
         Due.is("40 not in a row of neighbours alone", rowOf(1, 9, 2, 8, 3), 3002);
+        Due.is("40 ways of shorter rows are none of them", rowOf(7, 6, 5, 6, 9), 3001);
         Due.is("40 twelve upwards", rowOf(0, 1, 2, 3, 4, 5, 6, 7, 8, 9, 10, 99), 12001);
         Due.is("40 twelve downwards", rowOf(99, 11, 10, 9, 8, 7, 6, 5, 4, 3, 2, 0), 1012);
         Due.is("40 twelve alike", rowOf(7, 7, 7, 7, 7, 7, 7, 7, 7, 7, 7, 7), 1012);
