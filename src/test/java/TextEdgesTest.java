@@ -227,6 +227,7 @@ public final class TextEdgesTest {
             Due.is("12 of no place", x.fault(1), NONE);
             Due.is("12 the texts are as they were", x.look(10) * 1000 + x.look(11) * 100 + x.look(12) * 10 + x.look(13), 4222);
             Due.is("12 what can be undone is as it was", x.look(14), 4);
+            Due.is("12 the tape is empty then", x.feed(0, 0, 0, 0, 0), 20);
         }
         ClayBoots x = shire();
         Due.is("12 the first text", x.text(0), 0);

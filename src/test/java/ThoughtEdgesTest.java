@@ -101,6 +101,14 @@ public final class ThoughtEdgesTest {
         Due.is("19 without anything", new ClayBoots().goes(60, 0), 0);
         Due.is("19 nobody, no boots", new ClayBoots().goes(1, 1), 0);
         Due.is("19 no fields", new ClayBoots().goes(1, 2), 0);
+        // Promise 9 refuses days beyond 9999, promise 19 does not.
+        for (int day = 0; day < 9960; day += 60) {
+            x.days(60);
+        }
+        x.days(39);
+        Due.is("19 the last day", x.look(6), 9999);
+        Due.is("9 no day behind it", x.days(1), NONE);
+        Due.is("19 in thought there is one", x.goes(60, 0), x.look(5));
     }
 
     /** Terms 4: "GOES for n (1 .. 60) DAYS: MOVED, hatfuls on BOOTS of all, how many FIELDS are held then." */
